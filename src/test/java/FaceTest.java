@@ -1,0 +1,101 @@
+import java.lang.reflect.Constructor;
+import java.lang.reflect.Field;
+import java.lang.reflect.Method;
+import java.lang.reflect.Modifier;
+import java.nio.file.Files;
+import java.nio.file.Path;
+import java.util.Arrays;
+import java.util.Set;
+import java.util.TreeSet;
+
+/** The public face is the document's, and the source keeps to what can be looked up in it of LANGUAGE.md. */
+public final class FaceTest {
+    private static final String[] FACE = {
+        "int UNKNOWN", "int OUT_OF_RANGE", "int FULL", "int NONE", "SungSlides()",
+        "int add(int, int, int, int, boolean)", "int drop()", "int read()", "int set(int, int)",
+        "int sing(int, int, int)", "int silence(int, int)", "int singAlong(int, int, int)",
+        "int type(char)", "int clearText()", "int undo()", "int keep()", "int restore()",
+        "int syllable(int, int)", "int wanted(int)", "int sung(int)", "int lit(int, int)",
+        "int phrase(int, int)", "int total(int)",
+        "int ifShifted(int, int)", "int bestShift()", "int ifSet(int, int)", "int worst()"
+    };
+
+    public static void main(String[] args) throws Exception {
+        face();
+        privateNames();
+        staticFields();
+        source();
+        Check.end();
+    }
+
+    private static void face() {
+        Set<String> found = new TreeSet<>();
+        for (Field field : SungSlides.class.getDeclaredFields()) {
+            if (!Modifier.isPrivate(field.getModifiers())) {
+                found.add(field.getType().getSimpleName() + " " + field.getName());
+            }
+        }
+        for (Constructor<?> constructor : SungSlides.class.getDeclaredConstructors()) {
+            found.add("SungSlides" + parameters(constructor.getParameterTypes()));
+        }
+        for (Method method : SungSlides.class.getDeclaredMethods()) {
+            if (!Modifier.isPrivate(method.getModifiers())) {
+                found.add(method.getReturnType().getSimpleName() + " " + method.getName() + parameters(method.getParameterTypes()));
+            }
+        }
+        Check.due("the face", found.toString(), new TreeSet<>(Arrays.asList(FACE)).toString());
+        Check.due("public final class", SungSlides.class.getModifiers(), Modifier.PUBLIC | Modifier.FINAL);
+        Check.due("UNKNOWN", SungSlides.UNKNOWN, -1);
+        Check.due("OUT_OF_RANGE", SungSlides.OUT_OF_RANGE, -2);
+        Check.due("FULL", SungSlides.FULL, -3);
+        Check.due("NONE", SungSlides.NONE, -5);
+    }
+
+    private static String parameters(Class<?>[] types) {
+        StringBuilder all = new StringBuilder("(");
+        for (Class<?> type : types) {
+            all.append(all.length() > 1 ? ", " : "").append(type.getSimpleName());
+        }
+        return all.append(")").toString();
+    }
+
+    private static void privateNames() {
+        Set<String> names = new TreeSet<>();
+        for (Method method : SungSlides.class.getMethods()) {
+            if (method.getDeclaringClass() == SungSlides.class) {
+                names.add(method.getName());
+            }
+        }
+        for (Class<?> inside : SungSlides.class.getDeclaredClasses()) {
+            Check.due(inside + " is static", Modifier.isStatic(inside.getModifiers()) ? 1 : 0, 1);
+            Check.due(inside + " is not public", Modifier.isPublic(inside.getModifiers()) ? 1 : 0, 0);
+            for (Method method : inside.getDeclaredMethods()) {
+                Check.due(method + " bears a public name", names.contains(method.getName()) ? 1 : 0, 0);
+            }
+        }
+        for (Method method : SungSlides.class.getDeclaredMethods()) {
+            boolean isDouble = Modifier.isPrivate(method.getModifiers()) && names.contains(method.getName());
+            Check.due(method + " bears a public name", isDouble ? 1 : 0, 0);
+        }
+    }
+
+    private static void staticFields() {
+        for (Field field : SungSlides.class.getDeclaredFields()) {
+            int modifiers = field.getModifiers();
+            boolean isVariable = Modifier.isStatic(modifiers) && !Modifier.isFinal(modifiers);
+            Check.due(field + " is a static variable", isVariable ? 1 : 0, 0);
+        }
+    }
+
+    private static void source() throws Exception {
+        String text = Files.readString(Path.of("src/main/java/SungSlides.java"));
+        String code = text.replaceAll("/\\*[^*]*\\*+([^/*][^*]*\\*+)*/|//[^\n]*", " ");
+        String[] forbidden = {
+            "\\b(throws?|try|catch|synchronized|assert|import|package|instanceof|while)\\b", "->", "::", "\"", "\\bstatic \\{",
+            "\\b(System\\.(?!arraycopy)\\w+|Random|Thread|Object|Exact)\\b", "@\\w+"
+        };
+        for (String pattern : forbidden) {
+            Check.due("in the source: " + pattern, java.util.regex.Pattern.compile(pattern).matcher(code).find() ? 1 : 0, 0);
+        }
+    }
+}
