@@ -833,6 +833,10 @@ public final class PromiseTest {
         y.sing(9, 1, 0);
         y.set(4, 1);
         Check.due("21: as they are, if one matches", y.bestShift(), 32);
+        y.silence(0, 600);
+        y.sing(9, 4, 1);
+        y.sing(20, 4, 0);
+        Check.due("21: by 11 earlier, as the pitch at 9 is another one", y.bestShift(), 21);
     }
 
     private static void ifSet() {
