@@ -1,15 +1,50 @@
+import java.io.IOException;
+import java.nio.file.Files;
+import java.nio.file.Path;
+
 /** Counts the answers that are not as due. */
 final class Check {
+    private static final Path DOCUMENT = Path.of("../shared/DOC.md");
     private static int wrong = 0;
     private static int done = 0;
+    private static String words = "";
+    private static String document = null;
 
     private Check() {
+    }
+
+    /** The words of the document that the answers from here on are asked by; a quotation that is not in it is wrong. */
+    static void words(String quoted) {
+        words = quoted;
+        done++;
+        if (!document().isEmpty() && !document().contains(quoted)) {
+            countWrong();
+            System.out.println("these words are not in " + DOCUMENT);
+        }
+    }
+
+    private static String document() {
+        if (document == null) {
+            try {
+                document = Files.exists(DOCUMENT) ? Files.readString(DOCUMENT).replaceAll("\\s+", " ") : "";
+            } catch (IOException unreadable) {
+                document = "";
+            }
+        }
+        return document;
+    }
+
+    private static void countWrong() {
+        wrong++;
+        if (!words.isEmpty()) {
+            System.out.println("\"" + words + "\"");
+        }
     }
 
     static void due(String call, long got, long want) {
         done++;
         if (got != want) {
-            wrong++;
+            countWrong();
             System.out.println(call + " answered " + got + ", due is " + want);
         }
     }
@@ -17,7 +52,7 @@ final class Check {
     static void due(String call, String got, String want) {
         done++;
         if (!got.equals(want)) {
-            wrong++;
+            countWrong();
             System.out.println(call + " answered\n  " + got + "\n due is\n  " + want);
         }
     }
@@ -35,9 +70,14 @@ final class Check {
 
     /** All that can be asked of an object. */
     static String whole(SungSlides x) {
-        StringBuilder all = new StringBuilder();
-        for (int what = 0; what <= 14; what++) {
-            all.append(x.total(what)).append(' ');
+        return "states " + x.total(13) + " text " + x.total(14) + "\n" + state(x);
+    }
+
+    /** All that can be asked of an object but for its history and its text. */
+    static String state(SungSlides x) {
+        StringBuilder all = new StringBuilder(" ");
+        for (int what = 0; what <= 12; what++) {
+            all.append(' ').append(x.total(what));
         }
         for (int i = 0; i < x.total(5); i++) {
             all.append("\n  syllable");

@@ -24,6 +24,7 @@ public final class FaceTest {
         face();
         privateNames();
         staticFields();
+        sizes();
         source();
         Check.end();
     }
@@ -84,6 +85,26 @@ public final class FaceTest {
             int modifiers = field.getModifiers();
             boolean isVariable = Modifier.isStatic(modifiers) && !Modifier.isFinal(modifiers);
             Check.due(field + " is a static variable", isVariable ? 1 : 0, 0);
+        }
+    }
+
+    private static void sizes() {
+        Class<?>[] inside = SungSlides.class.getDeclaredClasses();
+        Check.due("at most twelve classes", inside.length < 12 ? 1 : 0, 1);
+        sizesOf(SungSlides.class);
+        for (Class<?> one : inside) {
+            sizesOf(one);
+        }
+    }
+
+    private static void sizesOf(Class<?> one) {
+        int fields = 0;
+        for (Field field : one.getDeclaredFields()) {
+            fields += Modifier.isStatic(field.getModifiers()) ? 0 : 1;
+        }
+        Check.due(one + " has at most twenty fields", fields <= 20 ? 1 : 0, 1);
+        for (Method method : one.getDeclaredMethods()) {
+            Check.due(method + " takes at most seven parameters", method.getParameterCount() <= 7 ? 1 : 0, 1);
         }
     }
 

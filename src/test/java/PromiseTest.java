@@ -45,24 +45,6 @@ public final class PromiseTest {
         return x;
     }
 
-    private static SungSlides typed(String text) {
-        SungSlides x = new SungSlides();
-        write(x, text);
-        return x;
-    }
-
-    private static SungSlides made(String text) {
-        SungSlides x = typed(text);
-        x.read();
-        return x;
-    }
-
-    private static void write(SungSlides x, String text) {
-        for (int i = 0; i < text.length(); i++) {
-            x.type(text.charAt(i));
-        }
-    }
-
     private static void same(String call, SungSlides x, String before) {
         Check.due(call + " then the whole", Check.whole(x), before);
     }
@@ -150,7 +132,7 @@ public final class PromiseTest {
         SungSlides x = song();
         x.sing(0, 4, 9);
         x.set(1, 3);
-        write(x, ".210:8,.44:4/60-0:32,5:1");
+        Songs.write(x, ".210:8,.44:4/60-0:32,5:1");
         Check.due("4: read", x.read(), 4);
         int[][] due = {{21, 8, 0, 0, 0}, {33, 4, 4, 4, 0}, {37, 32, 60, 0, 1}, {69, 1, 5, 5, 1}};
         for (int i = 0; i < 4; i++) {
@@ -168,16 +150,16 @@ public final class PromiseTest {
         Check.due("4: undo brings the earlier song", x.syllable(0, 0), 2);
         Check.due("4: undo leaves the text", x.total(14), 24);
         Check.due("4: the text can be read again", x.read(), 4);
-        Check.due("4: a rest of 32, then 0", typed(".320:1").read(), 1);
-        SungSlides rested = typed(".150:3,.199-8:1");
+        Check.due("4: a rest of 32, then 0", Songs.typed(".320:1").read(), 1);
+        SungSlides rested = Songs.typed(".150:3,.199-8:1");
         Check.due("4: rests that begin with 1", rested.read(), 2);
         Check.due("4: the rest 15", rested.syllable(0, 0), 15);
         Check.due("4: the rest 19", rested.syllable(1, 0), 37);
         Check.due("4: the pitch 9", rested.syllable(1, 2), 9);
-        SungSlides most = typed("0:1,0:1,0:1,0:1,0:1,0:1,0:1,0:1,0:1,0:1,0:1,0:1,0:1,0:1,0:1");
+        SungSlides most = Songs.typed("0:1,0:1,0:1,0:1,0:1,0:1,0:1,0:1,0:1,0:1,0:1,0:1,0:1,0:1,0:1");
         Check.due("4: the most syllables", most.read(), 15);
         Check.due("4: one phrase", most.total(6), 1);
-        SungSlides longest = typed(".320:32,.320:32,.320:32,.320:32,.320:32,.320:32,.320:32,0:32");
+        SungSlides longest = Songs.typed(".320:32,.320:32,.320:32,.320:32,.320:32,.320:32,.320:32,0:32");
         Check.due("4: a long song", longest.read(), 8);
         Check.due("4: its ticks", longest.total(7), 480);
     }
@@ -243,7 +225,7 @@ public final class PromiseTest {
     private static void fault(String text, int place) {
         SungSlides x = song();
         x.sing(3, 3, 3);
-        write(x, text);
+        Songs.write(x, text);
         String before = Check.whole(x);
         Check.due("4: read of \"" + text + "\"", x.read(), -100 - Math.min(place, 60));
         same("4: read of \"" + text + "\"", x, before);
@@ -373,7 +355,7 @@ public final class PromiseTest {
         Check.due("9: type again", x.type('\u0000'), 1);
         Check.due("10: no change", x.total(13), 0);
         x.clearText();
-        write(x, "7:2");
+        Songs.write(x, "7:2");
         Check.due("9: in the order of typing", x.read(), 1);
         Check.due("9: pitch", x.syllable(0, 2), 7);
         x.clearText();
@@ -415,9 +397,9 @@ public final class PromiseTest {
 
     private static void eachChangeRecords() {
         SungSlides x = new SungSlides();
-        write(x, "9-5:5,3:3");
+        Songs.write(x, "9-5:5,3:3");
         x.read();
-        String before = Check.whole(x).substring(0, 30);
+        String before = Check.state(x);
         int states = x.total(13);
         for (int i = 0; i < 7; i++) {
             switch (i) {
@@ -431,7 +413,7 @@ public final class PromiseTest {
             }
             Check.due("11: change " + i + " records", x.total(13), states + 1);
             x.undo();
-            Check.due("11: undone " + i, Check.whole(x).substring(0, 30), before);
+            Check.due("11: undone " + i, Check.state(x), before);
         }
         x.undo();
         x.keep();
@@ -642,7 +624,7 @@ public final class PromiseTest {
         SungSlides x = song();
         Check.due("15: ahead of all", x.wanted(1), SungSlides.NONE);
         Check.due("15: at the tick 0", x.wanted(0), SungSlides.NONE);
-        Check.due("15: at the tick 0, wanted", made("9:1").wanted(0), 9);
+        Check.due("15: at the tick 0, wanted", Songs.made("9:1").wanted(0), 9);
         Check.due("15: first tick", x.wanted(2), 10);
         Check.due("15: last tick", x.wanted(5), 10);
         Check.due("15: between", x.wanted(6), SungSlides.NONE);
@@ -714,7 +696,7 @@ public final class PromiseTest {
         Check.due("18: hits", x.phrase(0, 2), 2);
         Check.due("18: not all hit, no 50", x.phrase(0, 3), 215);
         Check.due("18: row", x.phrase(0, 4), 2);
-        SungSlides two = made("9:2,9:2/9:2");
+        SungSlides two = Songs.made("9:2,9:2/9:2");
         two.sing(0, 2, 9);
         Check.due("18: one of two", two.phrase(0, 3), 100);
         two.sing(2, 2, 10);
@@ -821,7 +803,7 @@ public final class PromiseTest {
         x.silence(0, 600);
         x.sing(65, 4, 20);
         Check.due("21: nearly as early", x.bestShift(), 0);
-        SungSlides y = made(".90:4");
+        SungSlides y = Songs.made(".90:4");
         y.set(1, 0);
         y.sing(10, 4, 0);
         Check.due("21: by 1 earlier", y.bestShift(), 31);
