@@ -7,6 +7,8 @@ import java.nio.file.Path;
 import java.util.Arrays;
 import java.util.Set;
 import java.util.TreeSet;
+import java.util.regex.Matcher;
+import java.util.regex.Pattern;
 
 /** The public face is the document's, and the source keeps to what can be looked up in it of LANGUAGE.md. */
 public final class FaceTest {
@@ -25,7 +27,10 @@ public final class FaceTest {
         privateNames();
         staticFields();
         sizes();
-        source();
+        String source = Files.readString(Path.of("src/main/java/SungSlides.java"));
+        words(source.replaceAll("/\\*[^*]*\\*+([^/*][^*]*\\*+)*/|//[^\n]*", " "));
+        signs(source);
+        lengths(source);
         Check.end();
     }
 
@@ -108,15 +113,41 @@ public final class FaceTest {
         }
     }
 
-    private static void source() throws Exception {
-        String text = Files.readString(Path.of("src/main/java/SungSlides.java"));
-        String code = text.replaceAll("/\\*[^*]*\\*+([^/*][^*]*\\*+)*/|//[^\n]*", " ");
+    private static void words(String code) {
         String[] forbidden = {
             "\\b(throws?|try|catch|synchronized|assert|import|package|instanceof|while)\\b", "->", "::", "\"", "\\bstatic \\{",
-            "\\b(System\\.(?!arraycopy)\\w+|Random|Thread|Object|Exact)\\b", "@\\w+"
+            "\\b(Random|Thread|Object|\\w+Exact)\\b", "@\\w+"
         };
         for (String pattern : forbidden) {
-            Check.due("in the source: " + pattern, java.util.regex.Pattern.compile(pattern).matcher(code).find() ? 1 : 0, 0);
+            Check.due("in the source: " + pattern, Pattern.compile(pattern).matcher(code).find() ? 1 : 0, 0);
         }
+        Set<String> library = new TreeSet<>(Arrays.asList("Math.abs", "Math.max", "Math.min", "System.arraycopy"));
+        Matcher call = Pattern.compile("\\b[A-Z]\\w*[a-z]\\w*\\.\\w+").matcher(code);
+        while (call.find()) {
+            Check.due("of the library: " + call.group(), library.contains(call.group()) ? 1 : 0, 1);
+        }
+    }
+
+    private static void signs(String source) {
+        String others = source.replaceAll("[\n -~]", "");
+        Check.due("signs that are not plain", others, "");
+    }
+
+    /** A method goes from a line that ends in ") {", indented by 4 or, in a class inside, by 8, to the "}" below it. */
+    private static void lengths(String source) {
+        String[] lines = source.split("\n");
+        int methods = 0;
+        for (int i = 0; i < lines.length; i++) {
+            Matcher head = Pattern.compile("( {4}| {8})\\w.*\\) \\{").matcher(lines[i]);
+            if (head.matches() && !lines[i].matches(" +(if|for|switch) .*")) {
+                int end = i;
+                while (end < lines.length && !lines[end].equals(head.group(1) + "}")) {
+                    end++;
+                }
+                methods++;
+                Check.due("at most sixty lines: " + lines[i].trim(), end - i < 60 ? 1 : 0, 1);
+            }
+        }
+        Check.due("methods are found", methods > 90 ? 1 : 0, 1);
     }
 }
